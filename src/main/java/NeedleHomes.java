@@ -1351,8 +1351,8 @@ public final class NeedleHomes {
         }
 
         private void clearLevel(int level) {
-            if (within(level, 0, LEVELS - 1)) {
-                Arrays.fill(counts, level * LEVEL_ROW, (level + 1) * LEVEL_ROW, 0);
+            for (int i = 0; i < LEVEL_ROW && within(level, 0, LEVELS - 1); i++) {
+                counts[level * LEVEL_ROW + i] = 0;
             }
         }
 
@@ -1770,7 +1770,7 @@ public final class NeedleHomes {
         private int changeFor(int w) {
             int sum = 0;
             for (int stitch = 0; stitch < STITCH_KINDS; stitch++) {
-                int rate = newRate(stitch, w);
+                int rate = nearestRate(w, times[stitch], rates[stitch]);
                 if (rate == NONE) {
                     return NONE;
                 }
@@ -1779,14 +1779,15 @@ public final class NeedleHomes {
             return sum;
         }
 
-        /** Rates that pay w .. w + gap stand in one row without holes, so the nearest is an end of it or the RATE. */
         int newRate(int stitch, int w) {
-            if (!isStitch(stitch)) {
-                return NONE;
-            }
-            int least = leastRateFor(w, times[stitch]);
-            int most = Math.min(NUMBER_MOST, leastRateFor(w + gap + 1, times[stitch]) - 1);
-            return least > most ? NONE : Math.max(least, Math.min(most, rates[stitch]));
+            return isStitch(stitch) ? nearestRate(w, times[stitch], rates[stitch]) : NONE;
+        }
+
+        /** Rates that pay w .. w + gap stand in one row without holes, so the nearest is an end of it or the RATE. */
+        private int nearestRate(int w, int time, int rate) {
+            int least = leastRateFor(w, time);
+            int most = Math.min(NUMBER_MOST, leastRateFor(w + gap + 1, time) - 1);
+            return least > most ? NONE : Math.max(least, Math.min(most, rate));
         }
 
         private static int leastRateFor(int w, int time) {

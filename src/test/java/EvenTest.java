@@ -8,6 +8,7 @@ public final class EvenTest {
         asksThePlainCase();
         findsNoPay();
         agreesWithTryingAll();
+        followsTheDearestStitch();
         refusesWhatIsNotThere();
         Due.end();
     }
@@ -98,6 +99,23 @@ public final class EvenTest {
             Due.goodList(x, list.toString(), 2, 0, 0);
             int g = run % 5 == 0 ? 0 : random.nextInt(100);
             even(x, 2, g, tryAll(times, rates, g));
+        }
+    }
+
+    /** One slow and dear stitch, wherever it stands, draws the pay of all others up to its own. */
+    private static void followsTheDearestStitch() {
+        for (int dear = 0; dear < 6; dear++) {
+            NeedleHomes x = new NeedleHomes();
+            int[] times = {36, 36, 36, 36, 36, 36};
+            int[] rates = {1, 1, 1, 1, 1, 1};
+            times[dear] = 9999;
+            rates[dear] = 5000;
+            for (int s = 0; s < 6; s++) {
+                x.time(s, times[s]);
+            }
+            Due.goodList(x, "rate if stitch=" + dear + ":5000;rate:1;", 0, 0, 0);
+            even(x, 0, 99, tryAll(times, rates, 99));
+            even(x, 0, 99, 1700, 81);
         }
     }
 

@@ -123,6 +123,11 @@ public final class TermTest {
         for (int[] row : wanted) {
             term(x, RATE, row[0], row[1], row[2]);
         }
+        NeedleHomes last = one("a1", "late:1;".repeat(15) + "rate if not stitch=1 and stitch<4 and colour=0 and ground=2:3;");
+        int[][] ofTheLastLine = {{0, 0, 3}, {1, 0, 10}, {3, 0, 3}, {4, 0, 10}, {0, 1, 10}};
+        for (int[] row : ofTheLastLine) {
+            term(last, RATE, row[0], row[1], row[2]);
+        }
     }
 
     private static void asksTheListOfNow() {
