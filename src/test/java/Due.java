@@ -2,15 +2,51 @@
 final class Due {
     private static int calls = 0;
     private static int wrong = 0;
+    private static String by = "";
 
     private Due() {
+    }
+
+    /** What is due from here on is so by these words of a promise; they must stand in the document. */
+    static void promise(int number, String words) {
+        begin("promise " + number, Document.promise(number), words);
+    }
+
+    /** As promise(), for one of the four paragraphs of terms with the text blocks under it. */
+    static void terms(int number, String words) {
+        begin("terms " + number, Document.terms(number), words);
+    }
+
+    /** As promise(), for words outside of promises and terms. */
+    static void words(String words) {
+        begin("document", Document.whole(), words);
+    }
+
+    private static void begin(String where, String text, String words) {
+        by = where + " [" + words + "]: ";
+        yes("these words stand there", text.contains(words));
     }
 
     static void is(String call, long got, long want) {
         calls++;
         if (got != want) {
             wrong++;
-            System.out.println(call + " answered " + got + ", due is " + want);
+            System.out.println(by + call + " answered " + got + ", due is " + want);
+        }
+    }
+
+    /** Two texts of many lines; the first line that is not the same is told. */
+    static void same(String call, String got, String want) {
+        calls++;
+        if (!got.equals(want)) {
+            wrong++;
+            String[] gotLines = got.split("\n");
+            String[] wantLines = want.split("\n");
+            int at = 0;
+            while (at < gotLines.length - 1 && at < wantLines.length - 1 && gotLines[at].equals(wantLines[at])) {
+                at++;
+            }
+            System.out.println(by + call + " shows " + gotLines[at] + ", due is " + wantLines[at]);
         }
     }
 
@@ -77,11 +113,15 @@ final class Due {
 
     static void badList(String text, int fault, int place) {
         NeedleHomes x = new NeedleHomes();
+        badListIn(x, text, fault, place);
+        is("lists with " + text, x.count(1), 0);
+        is("tape behind " + text, x.end(1), NeedleHomes.NONE);
+    }
+
+    static void badListIn(NeedleHomes x, String text, int fault, int place) {
         is("list " + text, list(x, text, 0, 0), NeedleHomes.NONE);
         is("fault of " + text, x.fault(0), fault);
         is("place of " + text, x.fault(1), place);
-        is("lists with " + text, x.count(1), 0);
-        is("tape behind " + text, x.end(1), NeedleHomes.NONE);
     }
 
     /** The last line of each test: exit code 1 if an answer was wrong. */
