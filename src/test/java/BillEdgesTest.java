@@ -12,6 +12,8 @@ public final class BillEdgesTest {
         earnedIsCutForEach();
         dueIsItsDayAndDays();
         nothingIsFinedTillItIsIn();
+        nothingIsFinedOfOneThatIsOutBesideOneThatIsIn();
+        stitchAndColourAreNineOfTheOthers();
         lateIsBehindDueAlone();
         fineIsEarnedAtMost();
         theGreatestFine();
@@ -168,6 +170,30 @@ public final class BillEdgesTest {
         x.day(90);
         bill(x, 0, 90, 50, 100, 0, 43, 28);
         bill(x, 0, 0, 50, 100, 0, 43, 28);
+    }
+
+    private static void nothingIsFinedOfOneThatIsOutBesideOneThatIsIn() {
+        Due.promise(20, "(3, 4: 0 till it is IN)");
+        NeedleHomes x = one("a1000", "fine:1;late:2;days:0;part:50;");
+        x.out(0, 0, 0);
+        x.out(0, 0, 0);
+        x.day(20);
+        x.in(0, 3, 0);
+        for (int what = 4; what >= 3; what--) {
+            Due.is("of the one that is in", x.bill(0, 20, what), what == 3 ? 43 : 28);
+            Due.is("of the one that is out", x.bill(1, 20, what), 0);
+        }
+    }
+
+    private static void stitchAndColourAreNineOfTheOthers() {
+        Due.terms(2, "stitch, colour: those that it is asked for, of rate and thread; 9 of the others");
+        NeedleHomes x = one("a1000k3f1000", "rate if stitch=9:99;thread if colour=9:99;rate if stitch=5 and colour=3:20;"
+                + "thread if stitch=0 and colour=0:20;fine if stitch=9:1;fine:7;late if colour=9:2;late:7;"
+                + "days if stitch=9 and colour=9:3;part if stitch=9 and colour=9:50;part:7;");
+        x.out(0, 0, 0);
+        x.day(5);
+        x.in(0, 4, 0);
+        bill(x, 0, 5, 250, 300, 3, 8, 146);
     }
 
     private static void lateIsBehindDueAlone() {

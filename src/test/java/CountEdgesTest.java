@@ -6,6 +6,7 @@ public final class CountEdgesTest {
         refusedCallsAreNotCounted();
         piecesOutAndIn();
         debtsAndNetTogether();
+        netOfOneHandAlone();
         anotherWhatIsNone();
         Due.end();
     }
@@ -85,6 +86,24 @@ public final class CountEdgesTest {
             x.in(hand, 0, 0);
             Due.is("debts with " + (hand + 1) + " in", x.count(8), 1200000 - 50 * (hand + 1));
             Due.is("net with " + (hand + 1) + " in", x.count(9), 50 * (hand + 1));
+        }
+    }
+
+    /** One piece alone, of each of twelve hands. */
+    private static void netOfOneHandAlone() {
+        Due.promise(33, "9 all NET");
+        for (int hand = 0; hand < 12; hand++) {
+            NeedleHomes x = new NeedleHomes();
+            Due.goodPattern(x, "a1000", 0, 0, 0);
+            for (int i = 0; i < 12; i++) {
+                x.hand(1, 1, 0);
+            }
+            x.advance(hand, 30);
+            Due.is("debt of " + hand, x.count(8), 30);
+            x.out(0, 0, hand);
+            x.in(0, 0, 0);
+            Due.is("net of " + hand, x.count(9), 70);
+            Due.is("debt of " + hand + " paid off", x.count(8), 0);
         }
     }
 

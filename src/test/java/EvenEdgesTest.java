@@ -17,6 +17,7 @@ public final class EvenEdgesTest {
         theGapCounts();
         newRatesAreAsNearAsCanBe();
         theLeastIsChangedTogether();
+        oneDearStitchDrawsAllOthers();
         ofSeveralTheLeastPay();
         noPayIsPossible();
         evenHasEightWhats();
@@ -225,6 +226,19 @@ public final class EvenEdgesTest {
         even(listed("rate if stitch<4:30;rate:10;"), 0, 0, 300, 40, 30, 30, 30, 30, 30, 30);
         even(listed("rate if stitch<4:30;rate:1;"), 0, 50, 250, 2 * 24, 30, 30, 30, 30, 25, 25);
         even(listed("rate if stitch=5:0;rate if stitch=4:50;rate:20;"), 0, 0, 200, 50, 20, 20, 20, 20, 20, 20);
+    }
+
+    /** 36 seconds: rate 17 pays 1700; the slow one with rate 5000 of 9999 seconds pays 1800. */
+    private static void oneDearStitchDrawsAllOthers() {
+        Due.terms(4, "that w by which the least is changed together");
+        for (int dear = 0; dear < 6; dear++) {
+            NeedleHomes x = timed("rate if stitch=" + dear + ":5000;rate:1;", 36);
+            x.time(dear, 9999);
+            even(x, 0, 0, 1800, 5 * 17);
+            even(x, 0, 99, 1700, 5 * 16 + 1);
+            Due.is("rate of the dear one", x.even(0, 99, 2 + dear), 4999);
+            Due.is("rate of another", x.even(0, 99, 2 + (dear + 1) % 6), 17);
+        }
     }
 
     private static void ofSeveralTheLeastPay() {

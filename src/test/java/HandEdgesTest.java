@@ -55,6 +55,12 @@ public final class HandEdgesTest {
         Due.is("the twelfth stays", x.tell(11, 0), 12);
         Due.is("the first stays", x.tell(0, 0), 1);
         Due.is("a fourteenth", x.hand(1, 1, 0), -1);
+        NeedleHomes many = looked(11);
+        for (int i = 0; i < 60; i++) {
+            many.out(0, 0, 0);
+        }
+        Due.is("a twelfth with sixty pieces out", many.hand(1, 1, 0), 11);
+        Due.is("a thirteenth", many.hand(1, 1, 0), -1);
     }
 
     private static void skillHasBounds() {

@@ -8,8 +8,8 @@ public final class ImageEdgesTest {
         void of(NeedleHomes x);
     }
 
-    private static final String[] NAMES = {"feed", "end", "pattern", "a faulty pattern", "list", "a faulty list", "day",
-        "hand", "habit", "hay", "no hay", "advance", "out", "in", "write", "look", "time", "all of them"};
+    private static final String[] NAMES = {"feed", "end", "pattern", "a faulty pattern", "list", "a faulty list", "hand",
+        "habit", "hay", "no hay", "advance", "out", "in", "write", "look", "time", "day", "all of them"};
     private static final Change[] CHANGES = {
         x -> x.feed(1, 2, 3, 4, 5),
         x -> x.end(3),
@@ -17,7 +17,6 @@ public final class ImageEdgesTest {
         x -> Due.pattern(x, "!", 0, 0),
         ImageEdgesTest::tellList,
         x -> Due.list(x, "part:101;", 0, 0),
-        x -> x.day(400),
         x -> x.hand(33, 3, 1),
         x -> x.habit(1, 3, 44),
         x -> x.hay(0, 2, true),
@@ -28,6 +27,7 @@ public final class ImageEdgesTest {
         ImageEdgesTest::writeAll,
         x -> x.look(1, 2, 900, 1),
         x -> x.time(2, 111),
+        x -> x.day(400),
         ImageEdgesTest::changeAll};
 
     public static void main(String[] args) {
@@ -45,6 +45,7 @@ public final class ImageEdgesTest {
         theFaultIsAsItWas();
         fewerAreThereAgain();
         moreAreThereAgain();
+        othersStandInTheirPlaces();
         anImageOfNothing();
         Due.end();
     }
@@ -309,6 +310,62 @@ public final class ImageEdgesTest {
         Due.is("an eleventh list", x.list(0, 0), -2);
         Due.is("a thirteenth hand", x.hand(1, 1, 0), -1);
         Due.is("a sixty-first piece", x.out(0, 0, 0), -1);
+    }
+
+    /** All places are full with one kind, then with another; kind is 1 or 2. */
+    private static void fill(NeedleHomes x, int kind) {
+        for (int i = 0; i < 8; i++) {
+            x.pattern(kind, 10 * kind + i);
+        }
+        for (int i = 0; i < 10; i++) {
+            x.list(kind, 10 * kind + i);
+        }
+        for (int i = 0; i < 12; i++) {
+            x.hand(20 * kind + i, 3 * kind, kind);
+        }
+        x.day(kind);
+        for (int i = 0; i < 60; i++) {
+            x.out(kind, (i + kind) % 8, (i + kind) % 12);
+        }
+    }
+
+    private static void showsFill(NeedleHomes x, int kind) {
+        for (int i = 0; i < 8; i++) {
+            Due.is("ground of " + i, x.about(i, 0), kind);
+            Due.is("marks of " + i, x.about(i, 1), 10 * kind + i);
+        }
+        for (int i = 0; i < 10; i++) {
+            Due.is("list of " + i, x.lists(kind, 10 * kind + i, 0), i);
+            Due.is("list of another dealer", x.lists(3 - kind, 142, 0), -1);
+        }
+        for (int i = 0; i < 12; i++) {
+            Due.is("skill of " + i, x.tell(i, 0), 20 * kind + i);
+            Due.is("hours of " + i, x.tell(i, 1), 3 * kind);
+            Due.is("carrier of " + i, x.tell(i, 2), kind);
+        }
+        int[] some = {0, 1, 30, 58, 59};
+        for (int i : some) {
+            Due.is("dealer of " + i, x.piece(i, 0), kind);
+            Due.is("pattern of " + i, x.piece(i, 1), (i + kind) % 8);
+            Due.is("hand of " + i, x.piece(i, 2), (i + kind) % 12);
+            Due.is("day of " + i, x.piece(i, 3), kind);
+        }
+    }
+
+    private static void othersStandInTheirPlaces() {
+        Due.promise(35, "All that is as image k has it");
+        NeedleHomes x = new NeedleHomes();
+        x.image(0);
+        fill(x, 1);
+        x.image(1);
+        x.again(0);
+        fill(x, 2);
+        x.image(2);
+        showsFill(x, 2);
+        x.again(1);
+        showsFill(x, 1);
+        x.again(2);
+        showsFill(x, 2);
     }
 
     private static void anImageOfNothing() {

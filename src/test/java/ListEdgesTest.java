@@ -13,6 +13,7 @@ public final class ListEdgesTest {
         fourTestsAreTaken();
         theFirstFaultByPlaceIsTold();
         faultOneGoesBeforeOthers();
+        eachTextBeginsAnew();
         theTapeIsTaken();
         listsAreNumberedFromNull();
         aFaultIsNone();
@@ -94,6 +95,10 @@ public final class ListEdgesTest {
             Due.badList("rate if " + what + "<=1:1;", 1, 9 + length);
             Due.badList("rate if " + what + "[1:1;", 1, 8 + length);
             Due.badList("rate if " + what + "<hay:1;", 1, 9 + length);
+            Due.badList("rate if " + what + "<:1;", 1, 9 + length);
+            Due.badList("rate if " + what + "<and hay:1;", 1, 9 + length);
+            Due.badList("rate if " + what + "and hay:1;", 1, 8);
+            Due.badList("rate if " + what + " and hay:1;", 1, 9 + length);
             Due.badList("rate if " + what + "<12345:1;", 1, 9 + length);
             Due.badList("rate if " + what + "x<1:1;", 1, 8);
             Due.badList(what + ":1;", 1, 0);
@@ -204,6 +209,22 @@ public final class ListEdgesTest {
         Due.badList("late:1;".repeat(17) + "late", 1, 123);
         Due.badList("rate if hay and hay and hay and hay and rate:1;", 1, 40);
         Due.badList("rate if hay and hay and hay and hay and hay:1", 1, 45);
+    }
+
+    /** Nothing of a text before goes on into the next one: no LINE, no TEST. */
+    private static void eachTextBeginsAnew() {
+        Due.terms(2, "TEXT: {LINE}");
+        String[] before = {"fine if hay and hay and hay and hay and hay:5;late:5;", "fine if hay:5;late:5;", "fine:5;late",
+            "late:5;".repeat(17)};
+        for (String text : before) {
+            NeedleHomes x = new NeedleHomes();
+            x.pattern(0, 0);
+            x.hand(1, 1, 0);
+            Due.list(x, text, 0, 0);
+            Due.goodList(x, "fine:7;", 0, 0, x.count(1));
+            Due.is("fine behind " + text, x.term(2, 0, 0, 0, 0, 0), 7);
+            Due.is("late behind " + text, x.term(3, 0, 0, 0, 0, 0), 0);
+        }
     }
 
     private static void theTapeIsTaken() {
@@ -328,6 +349,14 @@ public final class ListEdgesTest {
             Due.is("a faulty text", Due.list(x, " !", other[0], other[1]), -2);
             Due.is("fault(0)", x.fault(0), 0);
             Due.is("fault(1)", x.fault(1), -1);
+        }
+        for (int[] other : others) {
+            Full.refuses("list(" + other[0] + ", " + other[1] + ")", -2, x -> {
+                int answer = x.list(other[0], other[1]);
+                Due.pattern(x, Full.FAULTY, 0, 0);
+                Due.feed(x, 0, Full.TAPE);
+                return answer;
+            });
         }
         NeedleHomes x = ten();
         Due.badPatternIn(x, "!", 1, 0);

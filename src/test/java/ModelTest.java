@@ -284,7 +284,7 @@ public final class ModelTest {
             }
             case 2, 3 -> {
                 int spots = below(2) == 0 ? below(4) : from(0, 99);
-                int back = below(4) == 0 ? Math.max(0, x.bill(piece, 0, 0)) + below(2) : some(2);
+                int back = below(4) == 0 ? Math.max(0, model.bill(piece, 0, 0)) + below(2) : some(2);
                 same(of + "in", x.in(piece, spots, back), model.in(piece, spots, back, true));
             }
             case 4 -> {

@@ -17,6 +17,7 @@ public final class PatternEdgesTest {
         faultOneGoesBeforeOthers();
         aMillionStitchesAreTaken();
         manyStitchesNeverGoRound();
+        eachTextBeginsAnew();
         theTapeIsTaken();
         patternsAreNumberedFromNull();
         aFaultIsNone();
@@ -157,6 +158,10 @@ public final class PatternEdgesTest {
         has("k2 1[1[a9]]", 0, 2, 9);
         has("3[a1k1a1k2]a1", 0, 2, 3);
         has("9999[k1]a9", 0, 1, 9);
+        has("k2 3[k0 a5]", 0, 0, 15);
+        has("k2 3[a1 k0 a5]", 0, 0, 17);
+        has("k2 3[a1 k0 a5]", 0, 2, 1);
+        has("3[k1 2[a1 k0] a1]a1", 0, 0, 7);
     }
 
     private static void aColourAboveThreeIsFaultTwo() {
@@ -240,6 +245,22 @@ public final class PatternEdgesTest {
         Due.badPattern("4096[4096[4096[4096[4096[16[a1k1]]]]]]", 4, 0);
         Due.badPattern("k1 16[4096[4096[4096[4096[4096[k1a1]]]]]]b1", 4, 0);
         Due.badPattern("9999[9999[9999[9999[9999[9999[a9999b9999c9999k1d9999e9999f9999k2]]]]]]", 4, 0);
+    }
+
+    /** Nothing of a text before goes on into the next one: no [ that is open, no COLOUR, no STITCHES. */
+    private static void eachTextBeginsAnew() {
+        Due.terms(1, "A PATTERN is a text: {ITEM}");
+        String[] before = {"k3 a9 5[b9", "k3 1[1[1[1[1[1[1[", "k4 a9", "0[", "k2 1000[a1001]", "k1 a9 b9", "5[k2 a9"};
+        for (String text : before) {
+            NeedleHomes x = new NeedleHomes();
+            textOf(x, text);
+            int number = x.count(0);
+            Due.goodPattern(x, "a1 2[b2]", 0, 0, number);
+            Due.is("a behind " + text, x.stitches(number, 0, 0), 1);
+            Due.is("b behind " + text, x.stitches(number, 1, 0), 4);
+            Due.is("all behind " + text, x.about(number, 2), 5);
+            Due.badPatternIn(x, "a1]", 1, 2);
+        }
     }
 
     private static void theTapeIsTaken() {
@@ -363,6 +384,14 @@ public final class PatternEdgesTest {
             Due.is("a faulty text", Due.pattern(x, " !", other[0], other[1]), -2);
             Due.is("fault(0)", x.fault(0), 0);
             Due.is("fault(1)", x.fault(1), -1);
+        }
+        for (int[] other : others) {
+            Full.refuses("pattern(" + other[0] + ", " + other[1] + ")", -2, x -> {
+                int answer = x.pattern(other[0], other[1]);
+                Due.pattern(x, Full.FAULTY, 0, 0);
+                Due.feed(x, 0, Full.TAPE);
+                return answer;
+            });
         }
         NeedleHomes x = eight();
         Due.badListIn(x, "!", 1, 0);

@@ -17,6 +17,7 @@ public final class PieceEdgesTest {
         noMoreThanTheDebtIsPaidOff();
         nothingPaidPaysNothingOff();
         netIsTheRest();
+        netIsByTheTermsOfItsDay();
         allIsAsItWasThen();
         pieceTellsNine();
         pieceOfNoneIsRefused();
@@ -272,6 +273,24 @@ public final class PieceEdgesTest {
         Due.is("tell(1, 4)", x.tell(1, 4), 0);
         Due.is("carried(1)", x.carried(1), 87 + 91);
         Due.is("carried(2)", x.carried(2), 0);
+    }
+
+    /** A list that came behind the day on which it went out changes nothing of what is paid. */
+    private static void netIsByTheTermsOfItsDay() {
+        Due.terms(3, "Its TERMS are those of its BILL by the DAY on which it was given OUT.");
+        NeedleHomes x = one("a1000", "rate:30;fine:7;late:11;days:2;part:10;");
+        x.advance(0, 20);
+        x.day(1);
+        x.out(0, 0, 0);
+        x.day(2);
+        Due.goodList(x, "rate:90;fine:1;late:1;days:0;part:50;", 0, 0, 1);
+        x.day(4);
+        Due.is("in", x.in(0, 2, 0), 300 - 25 - 27 - 20);
+        tells(x, 0, 0, 0, 0, 1, 4, 2, 0, 20, 228);
+        Due.is("carried(1)", x.carried(1), 27);
+        Due.is("tell(0, 4)", x.tell(0, 4), 228);
+        Due.is("bill by day 4", x.bill(0, 4, 1), 900);
+        Due.is("bill by day 1", x.bill(0, 1, 1), 300);
     }
 
     private static void allIsAsItWasThen() {

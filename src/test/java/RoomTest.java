@@ -40,41 +40,46 @@ public final class RoomTest {
         }
         x.look(0, 0, 5, 5);
         x.image(1);
-        for (int call = 0; call < 400; call++) {
-            switch (kind) {
+        int calls = 76;
+        for (int call = 0; calls <= 510; call++) {
+            calls += switch (kind) {
                 case 0 -> imageOrAgain(x, call);
-                case 1 -> onceMore(x, call, x.pattern(0, 0));
+                case 1 -> 1 + onceMore(x, call, x.pattern(0, 0));
                 case 2 -> tellLongList(x, call);
-                case 3 -> onceMore(x, call, x.out(0, 0, 0));
+                case 3 -> 1 + onceMore(x, call, x.out(0, 0, 0));
                 default -> ask(x, call);
-            }
+            };
         }
     }
 
-    private static void imageOrAgain(NeedleHomes x, int call) {
+    /** Each of these answers how many calls it made. */
+    private static int imageOrAgain(NeedleHomes x, int call) {
         if (call % 2 == 0) {
             x.image(call % 3);
         } else {
             x.again(call % 3);
         }
+        return 1;
     }
 
-    private static void onceMore(NeedleHomes x, int call, int answer) {
+    private static int onceMore(NeedleHomes x, int call, int answer) {
         if (answer < 0 || call % 7 == 6) {
             x.again(0);
+            return 1;
         }
+        return 0;
     }
 
-    private static void tellLongList(NeedleHomes x, int call) {
+    private static int tellLongList(NeedleHomes x, int call) {
         int line = Due.four("rate", 0);
         if (call % 5 < 4) {
             x.feed(line, Due.four(":10;", 0), line, Due.four(":10;", 0), 0x20202020);
-        } else {
-            onceMore(x, call / 5, x.list(0, 0));
+            return 1;
         }
+        return 1 + onceMore(x, call / 5, x.list(0, 0));
     }
 
-    private static void ask(NeedleHomes x, int call) {
+    private static int ask(NeedleHomes x, int call) {
         switch (call % 8) {
             case 0 -> x.even(0, 3, 1);
             case 1 -> x.part(0, 40, 60, 2);
@@ -85,5 +90,6 @@ public final class RoomTest {
             case 6 -> x.wronged(call % 60, 0);
             default -> x.count(7);
         }
+        return 1;
     }
 }

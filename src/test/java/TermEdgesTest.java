@@ -13,6 +13,7 @@ public final class TermEdgesTest {
         withoutALineTermsArePlain();
         theFirstLineThatHolds();
         allTestsMustHold();
+        theLastTestOfTheLastLineCounts();
         stitchAndColourAreThoseAskedFor();
         stitchAndColourAreNineOfTheOthers();
         groundIsOfThePattern();
@@ -124,6 +125,23 @@ public final class TermEdgesTest {
             NeedleHomes x = one("a1", 0, 1);
             Due.goodList(x, text.append(":3;").toString(), 0, 0, 0);
             term(x, FINE, bad < 0 ? 3 : 0);
+        }
+    }
+
+    private static void theLastTestOfTheLastLineCounts() {
+        Due.terms(2, "the first LINE of it whose TESTS all hold");
+        String[] yes = {"ground=0", "spots=0", "week=0", "not hay"};
+        for (int line = 0; line < 16; line++) {
+            for (int bad = -1; bad < 8; bad++) {
+                StringBuilder text = new StringBuilder("late:1;".repeat(line)).append("fine if ");
+                for (int i = 0; i < 4; i++) {
+                    text.append(i == 0 ? "" : " and ").append(i == bad ? "skill>1" : i == bad - 4 ? "hay" : yes[i]);
+                }
+                NeedleHomes x = one("a1", 0, 1);
+                Due.goodList(x, text.append(":3;").toString(), 0, 0, 0);
+                term(x, FINE, bad < 0 ? 3 : 0);
+                term(x, LATE, line > 0 ? 1 : 0);
+            }
         }
     }
 
